@@ -46,6 +46,9 @@ public final class BodiesTest {
         Due.due("BAD ahead of FULL", x.tell(4, 0, 0, 0, 0), TailorHouse.BAD);
         Due.due("FULL changes nothing", x.digest(), before);
         Due.due("40 kept", x.count(0), 40);
+        Due.due("found among 40", x.found(4, 0, 0), 0);
+        Due.due("the last telling", x.measure(40 % 6, 40 % 6), 40);
+        Due.due("the one ahead of it", x.grown(40 % 6, 40 % 6), 6);
     }
 
     private static void badTellings() {
@@ -105,6 +108,10 @@ public final class BodiesTest {
         Due.due("the habit for this measure, of this hand", x.measure(1, 2), 163);
         Due.due("day 0", x.tell(0, 0, 0, 0, 3), 7);
         Due.due("told on day 0", x.measure(0, 0), 3);
+        x.tell(0, 0, 0, 9999, 4);
+        x.tell(0, 0, 0, 10000, 6);
+        Due.due("told on the last day", x.measure(0, 0), 6);
+        Due.due("grown by the last day", x.grown(0, 0), 2);
     }
 
     private static void meanIsCutTowardZero() {

@@ -228,5 +228,10 @@ public final class DraftTest {
             x.piece(0, 3, 0, -1);
         }
         Due.due("the last piece's bit", x.hangs(3, 1), 0b1111010);
+        for (int i = 3; i < 8; i++) {
+            x.more(6, 0);
+        }
+        x.more(0, 3);
+        Due.due("the first piece's bit", x.hangs(3, 1), 0b1111011);
     }
 }

@@ -85,6 +85,11 @@ public final class PiecesTest {
         Due.due("for another", x.length(1, 1, 0), 0);
         Due.due("root of 200 cut", x.length(1, 1, 1), 14);
         Due.due("root of 3700 cut", x.length(2, 1, 1), 60);
+        x.tell(0, 3, 0, 0, 3);
+        x.tell(0, 4, 0, 0, 5);
+        Due.due("root of 500 cut", x.length(3, 1, 1), 22);
+        Due.due("root of 1700 cut, an odd one", x.length(4, 1, 1), 41);
+        Due.due("root of 152200 cut", x.length(4, 1, 2), 390);
         int[] bodies = {-1, 6, MAX, MIN};
         for (int body : bodies) {
             Due.due("length bad body", x.length(body, 0, 0), TailorHouse.BAD);
@@ -156,6 +161,9 @@ public final class PiecesTest {
         Due.due("BAD ahead of FULL", x.seam(0, 0, 1, 3), TailorHouse.BAD);
         Due.due("nothing changed", x.digest(), before);
         Due.due("10 seams", x.count(3), 10);
+        x.more(0, 0);
+        Due.due("the first of 10 has a gap", x.gaps(0, 0), 0);
+        Due.due("the 10 agree", x.gaps(0, 100), TailorHouse.NONE);
     }
 
     private static void gaps() {
