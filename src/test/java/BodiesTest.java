@@ -1,6 +1,6 @@
 /** Promises 1 to 6: tellings, habits, measures. */
 public final class BodiesTest {
-    private static final int MAX = Integer.MAX_VALUE, MIN = Integer.MIN_VALUE;
+    private static final int MAX = Due.MAX, MIN = Due.MIN;
 
     public static void main(String[] args) {
         newObject();

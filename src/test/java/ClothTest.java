@@ -1,6 +1,6 @@
 /** Promises 19 to 21: the cloth and THE ORDER of pieces on it. */
 public final class ClothTest {
-    private static final int MAX = Integer.MAX_VALUE, MIN = Integer.MIN_VALUE;
+    private static final int MAX = Due.MAX, MIN = Due.MIN;
 
     public static void main(String[] args) {
         badCloth();
@@ -16,22 +16,6 @@ public final class ClothTest {
         Due.end();
     }
 
-    /** A piece of the given room, from a point of its own. */
-    private static void addPiece(TailorHouse x, int width, int height) {
-        int corner = x.fixed(-17, 23);
-        int opposite = x.off(corner, width, height);
-        x.piece(opposite, corner, corner, -1);
-    }
-
-    private static TailorHouse withPieces(int w, int p, int[][] rooms) {
-        TailorHouse x = new TailorHouse();
-        x.cloth(w, p);
-        for (int[] room : rooms) {
-            addPiece(x, room[0], room[1]);
-        }
-        return x;
-    }
-
     private static void laid(TailorHouse x, int body, int end, int... order) {
         Due.due("laid", x.laid(body), end);
         for (int i = 0; i < order.length; i++) {
@@ -44,7 +28,7 @@ public final class ClothTest {
     }
 
     private static void badCloth() {
-        TailorHouse x = withPieces(10, 1, new int[][] {{10, 5}});
+        TailorHouse x = Houses.withPieces(10, 1, new int[][] {{10, 5}});
         int[] widths = {0, -1, 5001, MAX, MIN};
         for (int w : widths) {
             Due.due("cloth bad w", x.cloth(w, 1), TailorHouse.BAD);
@@ -70,7 +54,7 @@ public final class ClothTest {
         Due.due("laid NO", x.laid(0), TailorHouse.NO);
         Due.due("laidAt NO", x.laidAt(5, 0), TailorHouse.NO);
         Due.due("laidAt NO, not so many", x.laidAt(5, 3), TailorHouse.NO);
-        addPiece(x, 1501, 4);
+        Houses.addPiece(x, 1501, 4);
         Due.due("laid NONE", x.laid(0), TailorHouse.NONE);
         Due.due("laidAt NONE", x.laidAt(0, 0), TailorHouse.NONE);
         Due.due("laid bad body", x.laid(6), TailorHouse.BAD);
@@ -79,23 +63,23 @@ public final class ClothTest {
 
     private static void clothAtFirst() {
         TailorHouse x = new TailorHouse();
-        addPiece(x, 1500, 51);
+        Houses.addPiece(x, 1500, 51);
         laid(x, 0, 51, 0);
-        addPiece(x, 1500, 101);
+        Houses.addPiece(x, 1500, 101);
         laid(x, 0, 201, 0, 1);
     }
 
     private static void oneRowWhileItFits() {
-        TailorHouse x = withPieces(100, 7, new int[][] {{40, 5}, {-60, -20}});
+        TailorHouse x = Houses.withPieces(100, 7, new int[][] {{40, 5}, {-60, -20}});
         laid(x, 0, 20, 0, 1);
         x.cloth(99, 7);
         laid(x, 0, 26, 1, 0);
-        TailorHouse thin = withPieces(3, 5, new int[][] {{0, 0}, {0, 3}, {2, 0}});
+        TailorHouse thin = Houses.withPieces(3, 5, new int[][] {{0, 0}, {0, 3}, {2, 0}});
         laid(thin, 0, 6, 0, 1, 2);
     }
 
     private static void rowsBeginAtChecks() {
-        TailorHouse x = withPieces(10, 50, new int[][] {{10, 50}, {10, 50}});
+        TailorHouse x = Houses.withPieces(10, 50, new int[][] {{10, 50}, {10, 50}});
         laid(x, 0, 100, 0, 1);
         x.cloth(10, 49);
         laid(x, 0, 148, 0, 1);
@@ -106,23 +90,23 @@ public final class ClothTest {
     }
 
     private static void firstByNumbers() {
-        TailorHouse x = withPieces(100, 10, new int[][] {{50, 10}, {50, 10}, {50, 10}, {50, 10}});
+        TailorHouse x = Houses.withPieces(100, 10, new int[][] {{50, 10}, {50, 10}, {50, 10}, {50, 10}});
         laid(x, 0, 20, 0, 1, 2, 3);
     }
 
     private static void leastEndWins() {
-        TailorHouse x = withPieces(10, 10, new int[][] {{10, 11}, {10, 20}});
+        TailorHouse x = Houses.withPieces(10, 10, new int[][] {{10, 11}, {10, 20}});
         laid(x, 0, 31, 1, 0);
-        TailorHouse three = withPieces(10, 10, new int[][] {{10, 19}, {10, 11}, {10, 15}});
+        TailorHouse three = Houses.withPieces(10, 10, new int[][] {{10, 19}, {10, 11}, {10, 15}});
         laid(three, 0, 51, 0, 2, 1);
     }
 
     private static void anOrderThatIsNotTheFirst() {
-        TailorHouse x = withPieces(10, 1, new int[][] {{5, 9}, {5, 1}, {5, 9}, {5, 1}});
+        TailorHouse x = Houses.withPieces(10, 1, new int[][] {{5, 9}, {5, 1}, {5, 9}, {5, 1}});
         laid(x, 0, 10, 0, 2, 1, 3);
-        TailorHouse y = withPieces(10, 1, new int[][] {{6, 3}, {6, 3}, {4, 3}, {4, 3}});
+        TailorHouse y = Houses.withPieces(10, 1, new int[][] {{6, 3}, {6, 3}, {4, 3}, {4, 3}});
         laid(y, 0, 6, 0, 2, 1, 3);
-        TailorHouse back = withPieces(10, 10, new int[][] {{6, 1}, {6, 10}, {4, 10}, {4, 1}});
+        TailorHouse back = Houses.withPieces(10, 10, new int[][] {{6, 1}, {6, 10}, {4, 10}, {4, 1}});
         laid(back, 0, 11, 1, 2, 0, 3);
     }
 
@@ -146,15 +130,15 @@ public final class ClothTest {
 
     private static void sevenPieces() {
         int[][] rooms = {{70, 12}, {30, 45}, {70, 47}, {30, 11}, {50, 30}, {50, 29}, {100, 8}};
-        TailorHouse x = withPieces(100, 10, rooms);
+        TailorHouse x = Houses.withPieces(100, 10, rooms);
         laid(x, 0, 102, 1, 2, 4, 5, 6, 0, 3);
-        TailorHouse like = withPieces(10, 10, new int[][] {
+        TailorHouse like = Houses.withPieces(10, 10, new int[][] {
             {9, 9}, {9, 9}, {9, 9}, {9, 9}, {9, 9}, {9, 9}, {9, 9}});
         laid(like, 0, 69, 0, 1, 2, 3, 4, 5, 6);
-        TailorHouse last = withPieces(10, 10, new int[][] {
+        TailorHouse last = Houses.withPieces(10, 10, new int[][] {
             {9, 9}, {9, 8}, {9, 7}, {9, 6}, {9, 5}, {9, 4}, {9, 3}});
         laid(last, 0, 63, 0, 1, 2, 3, 4, 5, 6);
-        TailorHouse first = withPieces(10, 10, new int[][] {
+        TailorHouse first = Houses.withPieces(10, 10, new int[][] {
             {9, 1}, {9, 8}, {9, 7}, {9, 6}, {9, 5}, {9, 4}, {9, 3}});
         laid(first, 0, 61, 1, 2, 3, 4, 5, 6, 0);
     }

@@ -1,6 +1,6 @@
 /** Promises 22 to 25: coats and THE BEST ORDER of them. */
 public final class CoatsTest {
-    private static final int MAX = Integer.MAX_VALUE, MIN = Integer.MIN_VALUE;
+    private static final int MAX = Due.MAX, MIN = Due.MIN;
 
     public static void main(String[] args) {
         coats();
@@ -13,14 +13,6 @@ public final class CoatsTest {
         eachWaitsForHandAndCoat();
         badQuestions();
         Due.end();
-    }
-
-    private static TailorHouse withCoats(int[][] coats) {
-        TailorHouse x = new TailorHouse();
-        for (int[] c : coats) {
-            x.coat(c[0], c[1], c[2], c[3]);
-        }
-        return x;
     }
 
     private static void best(TailorHouse x, int late, int end, int... order) {
@@ -60,7 +52,7 @@ public final class CoatsTest {
     }
 
     private static void clear() {
-        TailorHouse x = withCoats(new int[][] {{1, 2, 3, 4}, {5, 6, 7, 8}});
+        TailorHouse x = Houses.withCoats(new int[][] {{1, 2, 3, 4}, {5, 6, 7, 8}});
         Due.due("clear", x.clear(), 2);
         Due.due("none", x.count(4), 0);
         Due.due("clear again", x.clear(), 0);
@@ -75,45 +67,45 @@ public final class CoatsTest {
 
     private static void noCoats() {
         best(new TailorHouse(), 0, 0);
-        TailorHouse x = withCoats(new int[][] {{50, 50, 50, 0}});
+        TailorHouse x = Houses.withCoats(new int[][] {{50, 50, 50, 0}});
         x.clear();
         best(x, 0, 0);
     }
 
     private static void oneCoat() {
-        best(withCoats(new int[][] {{3, 4, 5, 12}}), 0, 12, 0);
-        best(withCoats(new int[][] {{3, 4, 5, 11}}), 1, 12, 0);
-        best(withCoats(new int[][] {{3, 4, 5, 1000}}), 0, 12, 0);
-        best(withCoats(new int[][] {{50, 50, 50, 0}}), 150, 150, 0);
+        best(Houses.withCoats(new int[][] {{3, 4, 5, 12}}), 0, 12, 0);
+        best(Houses.withCoats(new int[][] {{3, 4, 5, 11}}), 1, 12, 0);
+        best(Houses.withCoats(new int[][] {{3, 4, 5, 1000}}), 0, 12, 0);
+        best(Houses.withCoats(new int[][] {{50, 50, 50, 0}}), 150, 150, 0);
     }
 
     private static void leastLateFirst() {
         // the other order ends sooner (12), but is late
-        best(withCoats(new int[][] {{1, 1, 9, 20}, {9, 1, 1, 11}}), 0, 20, 1, 0);
-        best(withCoats(new int[][] {{5, 5, 5, 1000}, {5, 5, 5, 0}}), 15, 20, 1, 0);
+        best(Houses.withCoats(new int[][] {{1, 1, 9, 20}, {9, 1, 1, 11}}), 0, 20, 1, 0);
+        best(Houses.withCoats(new int[][] {{5, 5, 5, 1000}, {5, 5, 5, 0}}), 15, 20, 1, 0);
     }
 
     private static void thenLeastEnd() {
-        best(withCoats(new int[][] {{9, 1, 1, 1000}, {1, 1, 9, 1000}}), 0, 12, 1, 0);
+        best(Houses.withCoats(new int[][] {{9, 1, 1, 1000}, {1, 1, 9, 1000}}), 0, 12, 1, 0);
     }
 
     private static void thenFirstByNumbers() {
         int[][] like = {{2, 2, 2, 0}, {2, 2, 2, 0}, {2, 2, 2, 0}, {2, 2, 2, 0}, {2, 2, 2, 0}, {2, 2, 2, 0}};
-        best(withCoats(like), 6 + 8 + 10 + 12 + 14 + 16, 16, 0, 1, 2, 3, 4, 5);
+        best(Houses.withCoats(like), 6 + 8 + 10 + 12 + 14 + 16, 16, 0, 1, 2, 3, 4, 5);
         int[][] last = {{2, 2, 2, 99}, {2, 2, 2, 99}, {2, 2, 2, 99}, {2, 2, 2, 99}, {2, 2, 2, 99}, {2, 2, 2, 6}};
-        best(withCoats(last), 0, 16, 5, 0, 1, 2, 3, 4);
+        best(Houses.withCoats(last), 0, 16, 5, 0, 1, 2, 3, 4);
     }
 
     private static void eachWaitsForHandAndCoat() {
         // the sewer is busy, then the finisher is, then the coat is not sewn yet
-        best(withCoats(new int[][] {{1, 10, 1, 0}, {1, 1, 10, 99}}), 12, 22, 0, 1);
-        best(withCoats(new int[][] {{1, 1, 10, 12}, {1, 1, 1, 13}}), 0, 13, 0, 1);
-        best(withCoats(new int[][] {{3, 3, 3, 9}, {10, 1, 1, 15}}), 0, 15, 0, 1);
-        best(withCoats(new int[][] {{3, 3, 3, 9}, {1, 5, 1, 7}, {2, 1, 4, 20}}), 3, 16, 1, 0, 2);
+        best(Houses.withCoats(new int[][] {{1, 10, 1, 0}, {1, 1, 10, 99}}), 12, 22, 0, 1);
+        best(Houses.withCoats(new int[][] {{1, 1, 10, 12}, {1, 1, 1, 13}}), 0, 13, 0, 1);
+        best(Houses.withCoats(new int[][] {{3, 3, 3, 9}, {10, 1, 1, 15}}), 0, 15, 0, 1);
+        best(Houses.withCoats(new int[][] {{3, 3, 3, 9}, {1, 5, 1, 7}, {2, 1, 4, 20}}), 3, 16, 1, 0, 2);
     }
 
     private static void badQuestions() {
-        TailorHouse x = withCoats(new int[][] {{1, 1, 1, 1}});
+        TailorHouse x = Houses.withCoats(new int[][] {{1, 1, 1, 1}});
         int[] whats = {-1, 2, MAX, MIN};
         for (int what : whats) {
             Due.due("best bad what", x.best(what), TailorHouse.BAD);

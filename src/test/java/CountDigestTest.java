@@ -1,6 +1,6 @@
 /** Promises 1, 26 and 27: how many there are, and the digest of all. */
 public final class CountDigestTest {
-    private static final int MAX = Integer.MAX_VALUE, MIN = Integer.MIN_VALUE;
+    private static final int MAX = Due.MAX, MIN = Due.MIN;
 
     public static void main(String[] args) {
         counts();

@@ -1,6 +1,6 @@
 /** Promises 7 to 11 and 18: points, where they are and on which measures they hang. */
 public final class DraftTest {
-    private static final int MAX = Integer.MAX_VALUE, MIN = Integer.MIN_VALUE;
+    private static final int MAX = Due.MAX, MIN = Due.MIN;
 
     public static void main(String[] args) {
         fixed();

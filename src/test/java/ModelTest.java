@@ -4,8 +4,11 @@ import java.util.Random;
 
 /** All promises: random runs of calls, each answer against that of the plain model. */
 public final class ModelTest {
-    private static final int RUNS = 300;
+    private static final int RUNS = 400;
+    /** What a house is used for; each answer that is compared is one call of it. */
     private static final int CALLS = 512;
+    /** The most calls that one step of a run makes. */
+    private static final int STEP = 10;
     private static final int[] WILD = {
         -1, -2, 6, 7, 8, 20, 21, 40, 50, 51, 100, 101, 500, 501, 3001, 5001, 10001,
         Integer.MAX_VALUE, Integer.MIN_VALUE, Integer.MIN_VALUE + 1};
@@ -29,7 +32,8 @@ public final class ModelTest {
     }
 
     private void play(int run) {
-        for (int call = 0; call < CALLS && !Due.isWrong(); call++) {
+        int begun = Due.asked();
+        for (int call = 0; call < CALLS && Due.asked() - begun + STEP <= CALLS && !Due.isWrong(); call++) {
             int kind = random.nextInt(26);
             // a wide search is dear in the model, so that it is asked less often
             if ((kind == 18 || kind == 19) && random.nextInt(8) != 0) {

@@ -1,6 +1,6 @@
 /** Promises 12 to 17: pieces, lengths, areas, seams, gaps. */
 public final class PiecesTest {
-    private static final int MAX = Integer.MAX_VALUE, MIN = Integer.MIN_VALUE;
+    private static final int MAX = Due.MAX, MIN = Due.MIN;
 
     public static void main(String[] args) {
         pieces();
@@ -13,18 +13,8 @@ public final class PiecesTest {
         Due.end();
     }
 
-    /** A house with points 0 (0, 0), 1 (30, 0), 2 (30, 40), 3 (0, 40). */
-    private static TailorHouse withRectangle() {
-        TailorHouse x = new TailorHouse();
-        x.fixed(0, 0);
-        x.fixed(30, 0);
-        x.fixed(30, 40);
-        x.fixed(0, 40);
-        return x;
-    }
-
     private static void pieces() {
-        TailorHouse x = withRectangle();
+        TailorHouse x = Houses.withRectangle();
         int[] bad = {-2, 4, 20, MAX, MIN};
         for (int p : bad) {
             Due.due("piece bad a", x.piece(p, 0, 0, 0), TailorHouse.BAD);
@@ -50,7 +40,7 @@ public final class PiecesTest {
     }
 
     private static void more() {
-        TailorHouse x = withRectangle();
+        TailorHouse x = Houses.withRectangle();
         Due.due("more of nothing", x.more(0, 0), TailorHouse.BAD);
         x.piece(0, 1, 2, -1);
         x.piece(0, 1, 2, 3);
@@ -72,7 +62,7 @@ public final class PiecesTest {
     }
 
     private static void lengths() {
-        TailorHouse x = withRectangle();
+        TailorHouse x = Houses.withRectangle();
         x.by(0, 0, 1, 1, 1);
         x.fixed(1, 1);
         x.tell(0, 2, 0, 0, 7);
@@ -108,7 +98,7 @@ public final class PiecesTest {
     }
 
     private static void areas() {
-        TailorHouse x = withRectangle();
+        TailorHouse x = Houses.withRectangle();
         x.by(0, 1, 20, 1, 0);
         x.by(0, 1, 20, 1, 1);
         x.tell(0, 3, 1, 0, 3000);
@@ -134,7 +124,7 @@ public final class PiecesTest {
     }
 
     private static void seams() {
-        TailorHouse x = withRectangle();
+        TailorHouse x = Houses.withRectangle();
         Due.due("seam of nothing", x.seam(0, 0, 0, 0), TailorHouse.BAD);
         x.piece(0, 1, 2, 3);
         x.piece(0, 1, 2, -1);
@@ -167,7 +157,7 @@ public final class PiecesTest {
     }
 
     private static void gaps() {
-        TailorHouse x = withRectangle();
+        TailorHouse x = Houses.withRectangle();
         Due.due("no seams", x.gaps(0, 0), TailorHouse.NONE);
         x.by(1, 2, 1, 1, 0);
         x.piece(0, 1, 2, 3);
@@ -196,7 +186,7 @@ public final class PiecesTest {
     }
 
     private static void seamsFollowTheirPieces() {
-        TailorHouse x = withRectangle();
+        TailorHouse x = Houses.withRectangle();
         x.piece(0, 1, 2, -1);
         x.piece(0, 2, 1, -1);
         x.seam(0, 2, 1, 0);
