@@ -93,6 +93,8 @@ public final class EdgesOfCoatsTest {
         Due.about("as soon as it and the COAT are free");
         best(house(coat(1, 10, 1, 12), coat(1, 1, 1, 13)), 0, 13, 0, 1);
         best(house(coat(1, 10, 1, 12), coat(1, 1, 1, 12)), 1, 13, 0, 1);
+        // the second coat is cut by 2, and waits for the sewer until 11
+        best(house(coat(1, 10, 1, 12), coat(1, 5, 1, 17)), 0, 17, 0, 1);
         best(house(coat(1, 1, 10, 12), coat(1, 1, 1, 13)), 0, 13, 0, 1);
         best(house(coat(1, 1, 1, 3), coat(10, 1, 1, 13)), 0, 13, 0, 1);
     }
